@@ -28,16 +28,19 @@ public final class RightsStepsBoundsOfSeeds {
         promise4NextToPlain();
         promise4AllPlainOnes();
         promise4NoneTwice();
+        promise4NoneTwiceForAnyLevel();
         promise4TheNextOne();
         promise4GivenUpToTheLastCall();
         promise4PassedOverIsGone();
         promise4Awaited();
         promise4AwaitedBefore();
+        promise4OthersTakeNothing();
         promise5Octets();
         promise5OutOfEachTester();
         promise13Lengths();
         promise13BeforeAndBehind();
         promise13OfZero();
+        promise13OfTheTesterAtHand();
         Checks.finish();
     }
 
@@ -459,6 +462,21 @@ public final class RightsStepsBoundsOfSeeds {
         Checks.giveSeed(x, 5, 1001, 0);
     }
 
+    private static void promise4NoneTwiceForAnyLevel() {
+        Checks.sentence(4, "the seeds that were GIVEN are for all LEVELS");
+        int[] levels = {1, 10, 11, 20};
+        for (int i = 0; i < levels.length; i++) {
+            RightsSteps x = Checks.withLevel(levels[i], 0, 1, 0);
+            x.level(5, 0, 1, 0);
+            Checks.giveSeed(x, levels[i], 1001, 0);
+            x.tape(1001);
+            Checks.due("given for " + levels[i], x.seed(5, 0), -34);
+            Checks.giveSeed(x, 5, 1002, 0);
+            x.tape(1002);
+            Checks.due("given for 5", x.seed(levels[i], 0), -34);
+        }
+    }
+
     private static void promise4TheNextOne() {
         Checks.sentence(4, "the next number that is not PLAIN and was not GIVEN");
         RightsSteps x = Checks.withLevel(5, 0, 1, 0);
@@ -534,6 +552,30 @@ public final class RightsStepsBoundsOfSeeds {
         Checks.giveSeed(x, 6, 1004, 0);
         Checks.due("the seed before, another level", Checks.sendKey(x, 5, Checks.keyTo(0, 5, 1003)), -36);
         Checks.due("the last one", Checks.sendKey(x, 6, Checks.keyTo(0, 6, 1004)), 1);
+    }
+
+    /** A level of which -18, -51 and -55 is told, while 7 is open, 8 is awaited, and OUT is its seed. */
+    private static void promise4OthersTakeNothing() {
+        Checks.sentence(4, "-18, -51 and -55 leave OUT, what is AWAITED, what is OPEN and the TAPE");
+        int[] answers = {-18, -51, -55};
+        for (int i = 0; i < answers.length; i++) {
+            RightsSteps x = new RightsSteps();
+            x.level(7, 0, 1, 0);
+            x.level(8, 0, 1, 0);
+            x.level(9, 0, 1, 50);
+            x.level(11, 0, 1, 0);
+            x.session(answers[i] == -18 ? 2 : 3);
+            Checks.dueWrong(x, 9, 1000, 0, -54);
+            Checks.openIt(x, 7, 1001, 0);
+            Checks.giveSeed(x, 8, 1002, 0);
+            x.tape(1003);
+            Checks.due("seed()", x.seed(answers[i] == -55 ? 9 : 11, 0), answers[i]);
+            Checks.dueOut(x, 1002);
+            Checks.due("open(7)", x.open(7), 1);
+            Checks.due("the key of 8", Checks.sendKey(x, 8, Checks.keyTo(0, 8, 1002)), 1);
+            Checks.due("the tape has it yet", x.seed(7, 0), 4);
+            Checks.dueOut(x, 1003);
+        }
     }
 
     private static void promise5Octets() {
@@ -614,5 +656,21 @@ public final class RightsStepsBoundsOfSeeds {
         Checks.dueDigits(x, "0");
         x.tester(2);
         Checks.dueDigits(x, "0");
+    }
+
+    private static void promise13OfTheTesterAtHand() {
+        Checks.sentence(13, "OUT is each TESTER's own");
+        RightsSteps x = Checks.withLevel(5, 0, 1, 0);
+        int[] seeds = {10, 999, 1000, -2};
+        for (int n = 1; n <= 4; n++) {
+            x.tester(n);
+            Checks.dueDigits(x, "0");
+            Checks.giveRights(x);
+            Checks.giveSeed(x, 5, seeds[n - 1], 0);
+        }
+        for (int n = 1; n <= 4; n++) {
+            x.tester(n);
+            Checks.dueDigits(x, Integer.toUnsignedString(seeds[n - 1]));
+        }
     }
 }

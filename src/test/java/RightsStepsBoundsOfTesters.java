@@ -32,6 +32,8 @@ public final class RightsStepsBoundsOfTesters {
         promise14OneToFour();
         promise14WhichItWas();
         promise14EachTestersOwn();
+        promise14TheSameOne();
+        promise14AwaitedOfOneAlone();
         promise14ForAll();
         Checks.finish();
     }
@@ -633,6 +635,47 @@ public final class RightsStepsBoundsOfTesters {
             Checks.due("one below the role's end of " + n, x.seed(11, 10 * n - 1), -34);
             Checks.due("at the role's end of " + n, x.seed(11, 10 * n), -51);
             Checks.due("session of " + n, x.session(2), 3);
+        }
+    }
+
+    private static void promise14TheSameOne() {
+        Checks.sentence(14, "The TESTER AT HAND from now on: also the same one, who finds all as it was");
+        for (int n = 1; n <= 4; n++) {
+            RightsSteps x = Checks.withLevel(7, 0, 1, 0);
+            x.level(11, 0, 1, 0);
+            x.tester(n);
+            Checks.giveRights(x);
+            Checks.openIt(x, 7, 1001, 0);
+            Checks.giveSeed(x, 11, 1002, 0);
+            int key = Checks.keyTo(0, 11, 1002);
+            x.key(11, (byte) (key >> 24), false);
+            x.key(11, (byte) (key >> 16), false);
+            Checks.due("the same one", x.tester(n), n);
+            Checks.dueOut(x, 1002);
+            Checks.due("open(7)", x.open(7), 1);
+            x.key(11, (byte) (key >> 8), false);
+            Checks.due("the last octet", x.key(11, (byte) key, true), 1);
+            Checks.due("the role", x.seed(11, 0), 4);
+            Checks.due("the session", x.session(1), 3);
+        }
+    }
+
+    private static void promise14AwaitedOfOneAlone() {
+        Checks.sentence(14, "what is AWAITED is each TESTER's own");
+        RightsSteps x = Checks.withLevel(7, 0, 1, 0);
+        for (int n = 1; n <= 4; n++) {
+            x.tester(n);
+            Checks.giveRights(x);
+        }
+        for (int asking = 1; asking <= 4; asking++) {
+            x.tester(asking);
+            Checks.giveSeed(x, 7, 1000 + asking, 0);
+            int key = Checks.keyTo(0, 7, 1000 + asking);
+            for (int n = 1; n <= 4; n++) {
+                x.tester(n);
+                Checks.due("the key by " + n, Checks.sendKey(x, 7, key), n == asking ? 1 : -36);
+                Checks.due("open(7) of " + n, x.open(7), n <= asking ? 1 : 0);
+            }
         }
     }
 

@@ -1,32 +1,32 @@
 import java.math.BigInteger;
 import java.util.zip.CRC32;
 
-/** What the tests at the bounds share: the sentence at hand, what is due, and calls of several steps. */
+/** What the tests share: the sentence that is at hand, what is due, and calls of several steps. */
 final class Checks {
     static final long LATEST = 1L << 60;
 
     private static final long MASK = 0xFFFFFFFFL;
 
-    private static String sentence = "no sentence";
+    private static String sentence = "";
     private static int wrong = 0;
 
     private Checks() {
     }
 
-    /** From now on each wrong answer is told with this promise and these words of the document. */
+    /** From now on each wrong answer is told with this promise and these words for what it says. */
     static void sentence(int promise, String words) {
-        sentence = "Promise " + promise + " (" + words + ")";
+        sentence = "Promise " + promise + " (" + words + "): ";
     }
 
     static void due(String call, long got, long want) {
         if (got != want) {
             wrong++;
-            System.out.println(sentence + ": " + call + " answered " + got + ", due is " + want);
+            System.out.println(sentence + call + " answered " + got + ", due is " + want);
         }
     }
 
     static void finish() {
-        System.out.println(wrong == 0 ? "all bounds hold" : wrong + " answers are not as due");
+        System.out.println(wrong == 0 ? "all answers are as due" : wrong + " answers are not as due");
         if (wrong != 0) {
             System.exit(1);
         }
