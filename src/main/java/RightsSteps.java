@@ -35,8 +35,8 @@ public final class RightsSteps {
     // 0 is plain, so no seed is ever 0, and 0 can say that there is none.
     private static final int NO_SEED = 0;
 
-    // Below every time that a caller can name, so nothing lasts until it.
-    private static final long NEVER = Long.MIN_VALUE;
+    // The least long: no time that a caller can name is below it, so nothing lasts until it.
+    private static final long NEVER = 1L << 63;
 
     private final Level[] levels = new Level[LEVELS + 1];
     private final Tape tape = new Tape();

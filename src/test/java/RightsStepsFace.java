@@ -5,7 +5,8 @@ import java.lang.reflect.Modifier;
 import java.util.Arrays;
 import java.util.TreeSet;
 
-// The public face is the document's, and nothing else is to be seen of the class.
+// The public face is the document's, and nothing else is to be seen of the class; the classes inside are
+// static and not public, and no private method in them bears the name of one of the face.
 public final class RightsStepsFace {
     private static final String[] FACE = {
         "public byte RightsSteps.out(int) throws java.lang.ArrayIndexOutOfBoundsException",
@@ -41,10 +42,34 @@ public final class RightsStepsFace {
         right &= constructors.length == 1 && constructors[0].toString().equals("public RightsSteps()")
                 || complain("the constructors are " + Arrays.toString(constructors));
         right &= Modifier.isFinal(RightsSteps.class.getModifiers()) || complain("the class is not final");
+        right &= Modifier.isPublic(RightsSteps.class.getModifiers()) || complain("the class is not public");
+        for (Class<?> inside : RightsSteps.class.getDeclaredClasses()) {
+            right &= isHidden(inside);
+        }
         if (!right) {
             System.exit(1);
         }
         System.out.println("the face is the document's");
+    }
+
+    private static boolean isHidden(Class<?> inside) {
+        boolean right = Modifier.isStatic(inside.getModifiers()) || complain("not static: " + inside);
+        int seen = inside.getModifiers() & (Modifier.PUBLIC | Modifier.PROTECTED);
+        right &= seen == 0 || complain("to be seen: " + inside);
+        for (Method method : inside.getDeclaredMethods()) {
+            boolean both = Modifier.isPrivate(method.getModifiers()) && isOfTheFace(method.getName());
+            right &= !both || complain("bears a name of the face: " + method);
+        }
+        return right;
+    }
+
+    private static boolean isOfTheFace(String name) {
+        for (String method : FACE) {
+            if (method.contains(" RightsSteps." + name + "(")) {
+                return true;
+            }
+        }
+        return false;
     }
 
     private static boolean complain(String text) {
